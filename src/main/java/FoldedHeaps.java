@@ -143,7 +143,7 @@ public final class FoldedHeaps {
             return BAD;
         }
         told.shape.trace();
-        return told.formula[k].worthFrom(told.shape, 0);
+        return told.formula[k].worth(told.shape);
     }
 
     public int formula(int k, int what) {
@@ -622,8 +622,13 @@ public final class FoldedHeaps {
             return which == ITEM_NOT ? 1 : 0;
         }
 
-        /** What it is worth in a shape that was traced, the letters ahead of p standing for nodes. */
-        int worthFrom(Shape shape, int p) {
+        /** What it is worth in a shape that was traced. */
+        int worth(Shape shape) {
+            return worthFrom(shape, 0);
+        }
+
+        /** With the letters ahead of p standing for nodes. */
+        private int worthFrom(Shape shape, int p) {
             if (p >= letters || p >= MOST_LETTERS) {
                 return worthOfItems(shape);
             }
@@ -641,6 +646,7 @@ public final class FoldedHeaps {
             int top = -1;
             for (int k = 0; k < items && k < MOST_ITEMS; k++) {
                 int which = kind[k];
+                // putItem let none come that takes more than there is
                 if (top + 1 < taken(which)) {
                     return NO;
                 }

@@ -125,6 +125,10 @@ final class AskTest {
         worth(shape, "some a:at x a at y a or", 2);
         worth(shape, "some a:reach x a at y a and", 1);
         worth(shape, "all a all b:next a b next b a and not", 1);
+        worth("node;", "some a:many a", 0);
+        worth("node;many;", "all a:many a", 0);
+        worth("many;many;", "all a:many a", 2);
+        worth(shape, "all b some a some c:next a b next b c or", 1);
         // the first letter is outermost
         String cross = "node;node;next 0 1;next 1 0;";
         worth(cross, "all a some b:next a b", 2);

@@ -7,6 +7,7 @@ final class DeedsTest {
     public static void main(String[] args) {
         refusals();
         becomes();
+        oneBehindAnother();
         leads();
         newNodes();
         answers();
@@ -37,6 +38,19 @@ final class DeedsTest {
         did(2, 1, 1, 1, "010|200|101|020|021 001 200");
         did(2, 0, 0, 2, "010|021|011|020|021 001 200");
         did(2, 0, 2, 2, "010|001|011|020|021 001 200");
+    }
+
+    /** A deed starts from what there is, not from what the one ahead of it found. */
+    private static void oneBehindAnother() {
+        FoldedHeaps x = Check.told("node;node;node;at x 0;next 0 1;next 1 2;next 2 2 maybe;");
+        CHECK.due("deed(2, 0, 0)", 2, x.deed(2, 0, 0));
+        CHECK.shapeIs("one step", "000|020|000|000|020 002 001", x);
+        CHECK.due("deed(2, 0, 0)", 2, x.deed(2, 0, 0));
+        CHECK.shapeIs("two steps", "000|002|000|000|020 002 001", x);
+        CHECK.due("deed(2, 0, 0)", 2, x.deed(2, 0, 0));
+        CHECK.shapeIs("three steps", "000|001|000|000|020 002 001", x);
+        CHECK.due("deed(2, 1, 0)", 1, x.deed(2, 1, 0));
+        CHECK.shapeIs("four steps", "000|001|001|000|020 002 001", x);
     }
 
     private static void leads() {
@@ -78,6 +92,7 @@ final class DeedsTest {
         CHECK.due("run(1, 0)", FoldedHeaps.BAD, x.run(1, 0));
         CHECK.due("run(1, 21)", FoldedHeaps.BAD, x.run(1, 21));
         CHECK.due("run(1, -1)", FoldedHeaps.BAD, x.run(1, -1));
+        CHECK.due("run(1, 1)", 1, x.run(1, 1));
         int[] seeds = {0, 1, 7, -1, 12345, Integer.MIN_VALUE, Integer.MAX_VALUE, 99991};
         for (int seed : seeds) {
             FoldedHeaps one = new FoldedHeaps();

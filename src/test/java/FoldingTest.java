@@ -4,9 +4,11 @@ final class FoldingTest {
 
     public static void main(String[] args) {
         folds();
+        foldsOneBehindAnother();
         sharpens();
         ways();
         splits();
+        splitsOneBehindAnother();
         CHECK.close();
     }
 
@@ -30,6 +32,21 @@ final class FoldingTest {
         // a yes and a maybe are not alike
         folded("node;node;at x 0;at x 1 maybe;", 0, 2, "00|21|00|00|00 00");
         folded("node;node;at z 0;at y 1;", 0, 2, "00|00|02|20|00 00");
+    }
+
+    private static void foldsOneBehindAnother() {
+        FoldedHeaps x = Check.told("node;node;node;node;at x 0;at y 2;next 0 1;next 1 2;next 2 3;next 3 3;");
+        CHECK.due("fold(1)", 4, x.fold(1));
+        x.place(1, 2, 0);
+        CHECK.due("fold(1)", 2, x.fold(1));
+        CHECK.shapeIs("fold(1)", "01|20|00|00|01 01", x);
+        x.lead(0, 1, 0);
+        x.lead(1, 1, 0);
+        x.place(0, 0, 0);
+        CHECK.due("fold(0)", 1, x.fold(0));
+        CHECK.shapeIs("fold(0)", "1|0|0|0|0", x);
+        CHECK.due("add(0)", 2, x.add(0));
+        CHECK.shapeIs("add(0)", "10|00|00|00|00 00", x);
     }
 
     private static void folded(String text, int mode, int nodes, String shape) {
@@ -98,6 +115,8 @@ final class FoldingTest {
         split(text, 2, 1, FoldedHeaps.BAD, "010|011|010|020|020 112 010");
         split(text, 3, 0, FoldedHeaps.BAD, "010|011|010|020|020 112 010");
         split(text, -1, 0, FoldedHeaps.BAD, "010|011|010|020|020 112 010");
+        split("many;at x 0 maybe;at y 0 maybe;at z 0;", 1, 2, 2, "01|11|20|22|00 00");
+        split("many;at x 0 maybe;at z 0 maybe;next 0 0;", 2, 2, 2, "01|11|00|20|22 22");
         split("many;many;at x 0;at x 1;", 0, 1, 2, "10|02|00|00|00 00");
         split("many;many;at x 0;at x 1 maybe;", 0, 0, 2, "01|20|00|00|00 00");
         split("", 0, 0, 0, "||||");
@@ -107,6 +126,17 @@ final class FoldingTest {
         CHECK.shapeIs("a split that is full", was, x);
         CHECK.due("split(0, 4) with 6 nodes", FoldedHeaps.BAD, x.split(0, 4));
         CHECK.due("split(0, 1) with 6 nodes", 6, x.split(0, 1));
+    }
+
+    /** A split that is refused, or one beside others, leaves nothing behind for the next. */
+    private static void splitsOneBehindAnother() {
+        FoldedHeaps x = Check.told("many;node;at x 0 maybe;at x 1 maybe;at y 1 maybe;");
+        CHECK.due("split(0, 2)", 3, x.split(0, 2));
+        CHECK.shapeIs("split(0, 2)", "001|200|010|000|000 000 000", x);
+        CHECK.due("split(1, 9)", FoldedHeaps.BAD, x.split(1, 9));
+        CHECK.due("split(1, 1)", 3, x.split(1, 1));
+        CHECK.shapeIs("split(1, 1)", "001|200|020|000|000 000 000", x);
+        CHECK.due("split(2, 0)", 3, x.split(2, 0));
     }
 
     private static void split(String text, int v, int k, int answer, String shape) {

@@ -26,6 +26,7 @@ final class HandTest {
         x.lead(5, 5, 2);
         x.lead(0, 5, 1);
         x.lead(5, 0, 1);
+        x.many(5, 1);
         CHECK.due("lose(5)", 5, x.lose(5));
         CHECK.due("add(0) again", 6, x.add(0));
         CHECK.shapeIs("lose, add", "101010|000000|000000|000000|000000 000000 000000 000000 000000 000000", x);

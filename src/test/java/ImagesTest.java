@@ -62,12 +62,25 @@ final class ImagesTest {
         covering("many;node;next 0 0 maybe;next 0 1 maybe;", "node;node;node;next 0 1;next 1 2;next 2 0;", 0);
         covering("node;node;node;node;node;node;", "node;node;node;node;node;node;", 1);
         covering("node;node;node;node;node;node;", "node;node;node;node;node;node;next 5 5;", 0);
+        askedAgain();
         FoldedHeaps x = Check.told("node;");
         CHECK.due("covers(0, 0) of none", FoldedHeaps.STATE, x.covers(0, 0));
         CHECK.due("covers(2, 0)", FoldedHeaps.BAD, x.covers(2, 0));
         CHECK.due("covers(-1, 0)", FoldedHeaps.BAD, x.covers(-1, 0));
         CHECK.due("covers(0, 2)", FoldedHeaps.BAD, x.covers(0, 2));
         CHECK.due("covers(0, -1)", FoldedHeaps.BAD, x.covers(0, -1));
+    }
+
+    private static void askedAgain() {
+        FoldedHeaps x = Check.told("node;node;node;at x 0;next 0 1;next 1 2;");
+        x.keep(0);
+        x.fold(0);
+        for (int time = 0; time < 3; time++) {
+            CHECK.due("covers(0, 0), time " + time, 1, x.covers(0, 0));
+            CHECK.due("covers(0, 1), time " + time, 0, x.covers(0, 1));
+        }
+        x.back(0);
+        CHECK.due("covers(0, 1) of itself", 1, x.covers(0, 1));
     }
 
     /** Asked both ways: as the shape over an image, as an image over the shape. */

@@ -7,6 +7,7 @@ final class SheetsTest {
         lays();
         lowestBits();
         reads();
+        readsOnNewRows();
         tornReads();
         refusedReads();
         emptyReads();
@@ -88,6 +89,16 @@ final class SheetsTest {
         for (int[] b : bad) {
             CHECK.due("read(" + b[0] + ", " + b[1] + ", 0, " + b[2] + ")", FoldedHeaps.BAD, x.read(b[0], b[1], 0, b[2]));
         }
+    }
+
+    /** An answer of 0 (held: no) is no refusal; a new row is of cells 0. */
+    private static void readsOnNewRows() {
+        FoldedHeaps x = withDeeds(1, 9, 3, 0, 0, 4, 1, 2, 5, 0, 0);
+        CHECK.due("read of deeds that answer 0", 3, x.read(1, 1, 0, 3));
+        CHECK.due("rule(0)", 1, x.rule(0));
+        x.sheet(1, 1, 9);
+        CHECK.due("read of a new row", 3, x.read(1, 1, 0, 3));
+        CHECK.shapeIs("x becomes nothing", "0|0|0|0|0", x);
     }
 
     private static void tornReads() {

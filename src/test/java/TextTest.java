@@ -10,6 +10,7 @@ final class TextTest {
         faultsByOrder();
         refusedTextChangesNothing();
         takenTextReplacesAll();
+        textsOneBehindAnother();
         CHECK.close();
     }
 
@@ -88,6 +89,9 @@ final class TextTest {
         refused(";", 2, 0);
         refused("5;", 2, 0);
         refused("nodes;", 2, 0);
+        refused("mode;", 2, 0);
+        refused("nods;", 2, 0);
+        refused("et x 0;", 2, 0);
         refused("x", 2, 0);
         refused("node", 2, 4);
         refused("node   ", 2, 7);
@@ -199,5 +203,27 @@ final class TextTest {
         CHECK.due("count(2): sheets are not", 3, x.count(2));
         CHECK.due("add(0)", 1, x.add(0));
         CHECK.shapeIs("add(0)", "0|0|0|0|0", x);
+    }
+
+    /** What an older text told, or one that was refused, does not shine through. */
+    private static void textsOneBehindAnother() {
+        FoldedHeaps x = new FoldedHeaps();
+        for (int time = 0; time < 4; time++) {
+            CHECK.due("a long text", 8, Check.tell(x, "many;many;at x 0;at y 1;next 0 1;next 1 0;"
+                + "ask all a some b:same a b many a or many b or;ask all c:many c;"));
+            CHECK.due("formula(0, 0)", 2, x.formula(0, 0));
+            CHECK.due("formula(0, 2)", 5, x.formula(0, 2));
+            CHECK.due("formula(0, 3)", 2, x.formula(0, 3));
+            CHECK.due("a text that is refused", -10 - 19, Check.tell(x, "many;node;at x 1;  A"));
+            CHECK.due("a short text", 3, Check.tell(x, "node;node;ask some b:many b;"));
+            CHECK.shapeIs("a short text", "00|00|00|00|00 00", x);
+            CHECK.due("formula(0, 0)", 1, x.formula(0, 0));
+            CHECK.due("formula(0, 1)", 0, x.formula(0, 1));
+            CHECK.due("formula(0, 2)", 1, x.formula(0, 2));
+            CHECK.due("formula(0, 3)", 1, x.formula(0, 3));
+            CHECK.due("rule(1)", 1, x.rule(1));
+            CHECK.due("count(3)", 1, x.count(3));
+            CHECK.due("ask(0)", 0, x.ask(0));
+        }
     }
 }
