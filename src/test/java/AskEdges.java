@@ -257,6 +257,16 @@ final class AskEdges {
         worth("many;", "some a:many a not", 0);
         worth(shape, "some c some b:at x b at y c and next b c and", 1);
         worth(shape, "some c some b:at x b at y c and next c b and", 0);
+        // of the letter that is named, whichever place it has
+        worth(shape, "some a some b:at x a at x b not and many b and", 2);
+        worth(shape, "some a some b:at x a many b not and same a b not and", 2);
+        for (int truth = 0; truth <= 2; truth++) {
+            String led = "node;node;at z 0;at y 1;" + (truth == 0 ? "" : truth == 1 ? "next 0 1 maybe;" : "next 0 1;");
+            worth(led, "some c some b:at z c at y b and reach z b and", truth);
+            worth(led, "some c some b:at z c at y b and reach y c and", 0);
+            worth(led, "some c some b:at z c at y b and reach y b and", 2);
+            worth(led, "some c some b:at z c at y b and reach x b and", 0);
+        }
     }
 
     private void itemsThatTake() {

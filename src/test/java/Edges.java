@@ -6,11 +6,13 @@ final class Edges {
     private final Check check = new Check("EdgeTest");
     private final Document document = new Document();
     private String holding = "";
+    private int sentences;
 
     /** Each sentence has a test of its own, so none is quoted twice; 0: it binds all promises. */
     void sentence(int promise, String words, Runnable test) {
         holding = (promise == 0 ? "all promises" : "promise " + promise) + ", \"" + words + "\": ";
         check.holds(holding + "that it stands in the document, quoted once", document.mark(promise, words));
+        sentences++;
         test.run();
     }
 
@@ -87,6 +89,7 @@ final class Edges {
     }
 
     void close() {
+        System.out.println("EdgeTest: " + sentences + " sentences");
         check.close();
     }
 }

@@ -112,6 +112,23 @@ final class FoldingEdges {
         e.due("add(0) behind it", 2, x.add(0));
         e.shape("add(0)", "10|00|00|00|00 00", x);
         e.due("fold(0) again", 1, x.fold(0));
+        foldsOneBehindAnother();
+    }
+
+    /** What an older fold had must not come again with a node more. */
+    private void foldsOneBehindAnother() {
+        Calls x = Calls.told("many;many;many;at x 0;at y 1;at z 2;next 0 1;next 1 2;next 2 2;next 2 1;next 0 2;next 1 1;");
+        e.due("fold(0) of three that differ", 3, x.fold(0));
+        for (int v = 0; v <= 2; v++) {
+            x.deed(3, v, 0);
+        }
+        for (int v = 0; v <= 2; v++) {
+            x.deed(0, v, 0);
+        }
+        e.due("fold(0) of three that are alike then", 1, x.fold(0));
+        x.add(0);
+        x.add(0);
+        e.shape("two more", "100|000|000|000|000 000 000", x);
     }
 
     private void badFolds() {

@@ -156,6 +156,7 @@ final class ImageEdges {
         covering(SIX, SIX, 1);
         covering(SIX, "node;node;node;node;node;", 0);
         covering("many;node;at y 1;", "node;node;", 0);
+        covering("many;node;at y 1;", "node;node;node;", 0);
         covering("many;many;at y 1;", "node;node;at y 0;", 1);
     }
 
@@ -171,6 +172,7 @@ final class ImageEdges {
         covering("node;", SIX, 0);
         covering("node;node;at x 0;", "many;node;at x 1;", 0);
         covering("many;node;at x 1;", "many;node;at x 1;", 1);
+        covering("many;node;at x 1;", "many;node;at x 0;", 0);
     }
 
     private void maybeOrAsInTheOther() {

@@ -227,9 +227,24 @@ final class TextEdges {
         refused("node`;", 1, 4);
         refused("node{;", 1, 4);
         refused("nodeE;", 1, 4);
-        // a name that is longer or shorter than one that is told of
-        refused("nodes;", 2, 0);
-        refused("nod;", 2, 0);
+        namesThatAreNotTold();
+    }
+
+    /** Each name that a text may have, with a sign more, a sign less, and each of its signs another one. */
+    private void namesThatAreNotTold() {
+        String[][] starts = {{"", "node many at next ask"}, {"at x 0 ", "maybe"}, {"ask ", "all some"},
+            {"ask all a:many a many a ", "at reach next same many not and or"}};
+        for (String[] start : starts) {
+            for (String name : start[1].split(" ")) {
+                int place = start[0].length();
+                refused(start[0] + name + "s", 2, place);
+                refused(start[0] + name.substring(0, name.length() - 1), 2, place);
+                refused(start[0] + name.substring(1), 2, place);
+                for (int i = 0; i < name.length(); i++) {
+                    refused(start[0] + name.substring(0, i) + "q" + name.substring(i + 1), 2, place);
+                }
+            }
+        }
     }
 
     private void numbers() {
@@ -269,6 +284,19 @@ final class TextEdges {
         taken("at x 0;next 0 0 maybe;node;", 3, "0|2|0|0|1");
         taken("node;at x 0;at x 0 maybe;next 0 0;next 0 0 maybe;", 5, "0|1|0|0|1");
         taken("node;at x 0 maybe;at x 0;next 0 0 maybe;next 0 0;", 5, "0|2|0|0|2");
+        allElseIsNo();
+    }
+
+    /** Even where an older text, or one that was refused, told it otherwise. */
+    private void allElseIsNo() {
+        Calls x = new Calls();
+        String full = "many;many;at x 0;at y 1 maybe;at z 0;next 0 0;next 0 1;next 1 0 maybe;";
+        for (int time = 0; time < 3; time++) {
+            e.due("text() of much", 8, x.tell(full));
+            e.due("text() of much that is refused", -10 - full.length(), x.tell(full + "A"));
+            e.due("text() of two nodes", 2, x.tell("node;node;"));
+            e.shape("it", "00|00|00|00|00 00", x);
+        }
     }
 
     private void formulas() {
@@ -278,6 +306,24 @@ final class TextEdges {
         e.due("formula(0, 1), the first told", 0, x.formula(0, 1));
         e.due("formula(1, 1), the second told", 1, x.formula(1, 1));
         e.due("formula(2, 1), none", FoldedHeaps.BAD, x.formula(2, 1));
+        formulasOneBehindAnother();
+    }
+
+    /** A formula has nothing of an older one, nor of one that was refused. */
+    private void formulasOneBehindAnother() {
+        Calls x = new Calls();
+        String old = "node;ask all c some b:same b b not same b b and" + " not".repeat(8) + ";";
+        for (int time = 0; time < 2; time++) {
+            e.due("text() of a long formula", 2, x.tell(old));
+            e.due("text() of a long formula that is refused", -10 - old.length(), x.tell(old + "A"));
+            e.due("text() of a short formula", 2, x.tell("node;ask some a:same a a;"));
+            int[] want = {1, 0, 1, 1};
+            for (int what = 0; what < want.length; what++) {
+                e.due("formula(0, " + what + ")", want[what], x.formula(0, what));
+            }
+            e.due("ask(0)", 2, x.ask(0));
+            e.due("text() with a letter that an older one told", -10 - 16, x.tell("ask some a:many b;"));
+        }
     }
 
     private void inPlaceOfAll() {
@@ -294,6 +340,8 @@ final class TextEdges {
         e.due("back(0)", FoldedHeaps.STATE, x.back(0));
         e.due("covers(1, 0)", FoldedHeaps.STATE, x.covers(1, 0));
         e.due("keep(0)", 0, x.keep(0));
+        e.due("count(2): a text tells nothing of sheets", 7, x.count(2));
+        e.due("torn(): nor of reads", 2, x.torn());
         e.due("an empty text()", 0, x.text());
         e.shape("it", "||||", x);
         e.due("rule(1)", 0, x.rule(1));
