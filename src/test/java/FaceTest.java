@@ -1,12 +1,17 @@
+import java.io.IOException;
 import java.lang.management.ManagementFactory;
 import java.lang.reflect.Constructor;
 import java.lang.reflect.Field;
 import java.lang.reflect.Method;
 import java.lang.reflect.Modifier;
+import java.nio.file.Files;
+import java.nio.file.Path;
 import java.util.ArrayList;
 import java.util.Arrays;
 import java.util.List;
 import java.util.TreeSet;
+import java.util.regex.Matcher;
+import java.util.regex.Pattern;
 
 /** The public face is the document's and no more; calls with any arguments never throw and make nothing new. */
 final class FaceTest {
@@ -18,12 +23,26 @@ final class FaceTest {
     private static final int[] ODD = {0, 1, -1, 2, 3, 6, 7, 13, 20, 40, 320, Integer.MAX_VALUE, Integer.MIN_VALUE,
         Integer.MAX_VALUE - 1, -320};
 
-    public static void main(String[] args) throws ReflectiveOperationException {
+    public static void main(String[] args) throws IOException, ReflectiveOperationException {
+        document();
         face();
         constants();
         oddArguments();
         room();
         CHECK.close();
+    }
+
+    /** The face that this test asks for is that which stands in the document. */
+    private static void document() throws IOException {
+        String text = Files.readString(Path.of("../shared/DOC.md"));
+        CHECK.holds("the constants stand there",
+            text.contains("public static final int BAD = -1, STATE = -2, FULL = -3, NONE = -4;"));
+        List<String> methods = new ArrayList<>();
+        Matcher call = Pattern.compile("\n    public int (\\w+)\\(([^)]*)\\);").matcher(text);
+        while (call.find()) {
+            methods.add(call.group(1) + " " + (call.group(2).isEmpty() ? 0 : call.group(2).split(",").length));
+        }
+        CHECK.holds("the methods stand there: " + methods, methods.equals(Arrays.asList(METHODS)));
     }
 
     private static void face() {

@@ -1,11 +1,15 @@
 import java.io.IOException;
+import java.lang.reflect.Field;
+import java.lang.reflect.Method;
+import java.lang.reflect.Modifier;
 import java.nio.file.Files;
 import java.nio.file.Path;
 import java.util.Set;
+import java.util.TreeSet;
 import java.util.regex.Matcher;
 import java.util.regex.Pattern;
 
-/** What of ../shared/LANGUAGE.md can be seen in the source's text. It is run from the project's root. */
+/** What of ../shared/LANGUAGE.md can be seen in the source's text and in its classes. Run from the project's root. */
 final class LanguageTest {
     private static final Check CHECK = new Check("LanguageTest");
     private static final Pattern METHOD =
@@ -18,6 +22,13 @@ final class LanguageTest {
         words(code);
         library(code);
         methods(code.split("\n", -1));
+        loops(code);
+        names();
+        fields(FoldedHeaps.class);
+        for (Class<?> inside : FoldedHeaps.class.getDeclaredClasses()) {
+            CHECK.holds(inside + " is static", Modifier.isStatic(inside.getModifiers()));
+            fields(inside);
+        }
         CHECK.close();
     }
 
@@ -75,5 +86,48 @@ final class LanguageTest {
             CHECK.holds(m.group(3) + " takes few: " + parameters, parameters <= 7);
         }
         CHECK.holds("methods were found: " + found, found > 60);
+    }
+
+    /** Rule 9: a loop without a condition has no end that its own lines show. */
+    private static void loops(String code) {
+        CHECK.holds("no while (true)", !Pattern.compile("while\\s*\\(\\s*true").matcher(code).find());
+        CHECK.holds("no for without a bound", !Pattern.compile("for\\s*\\([^;()]*;\\s*;").matcher(code).find());
+    }
+
+    /** Rule 1: no method of the classes inside bears the name of a public one (FaceTest looks at the outer class). */
+    private static void names() {
+        Set<String> face = new TreeSet<>();
+        for (Method m : FoldedHeaps.class.getDeclaredMethods()) {
+            if (Modifier.isPublic(m.getModifiers())) {
+                face.add(m.getName());
+            }
+        }
+        for (Class<?> inside : FoldedHeaps.class.getDeclaredClasses()) {
+            for (Method m : inside.getDeclaredMethods()) {
+                CHECK.holds(m + " has a name of its own", !face.contains(m.getName()));
+            }
+        }
+    }
+
+    /** Rules 3, 5 and 11: kinds of fields, no static state, some twenty fields. */
+    private static void fields(Class<?> owner) {
+        int found = 0;
+        for (Field f : owner.getDeclaredFields()) {
+            if (Modifier.isStatic(f.getModifiers())) {
+                CHECK.holds(f + " is a constant", Modifier.isFinal(f.getModifiers()) && f.getType() == int.class);
+                continue;
+            }
+            found++;
+            Class<?> kind = f.getType();
+            int rows = 0;
+            while (kind.isArray()) {
+                kind = kind.getComponentType();
+                rows++;
+            }
+            boolean own = kind.getEnclosingClass() == FoldedHeaps.class;
+            boolean number = kind.isPrimitive() && kind != boolean.class;
+            CHECK.holds(f + " is of a kind that the rules leave", rows < 2 ? own || kind.isPrimitive() : rows == 2 && number);
+        }
+        CHECK.holds(owner + " has few fields: " + found, found <= 20);
     }
 }
